@@ -465,7 +465,7 @@ public final class HeadTables {
             add(rest);
         }
 
-        /** Adds a length and the signs. At most 6 signs: their length is one octet with any prefix from 3 bits. */
+        /** Adds a length, which is at most 6 and so one octet with every prefix from 3 bits, and the signs. */
         void addWord(int head, Row word) {
             add(head + word.size);
             addAll(word);
@@ -702,7 +702,7 @@ public final class HeadTables {
         }
     }
 
-    /** A dynamic table. Each entry is like one field, and no two fields are equal: it is kept by that field's number. */
+    /** A dynamic table. Each entry is like one field, no two fields being equal, and is kept by its number. */
     private static final class Table {
         /**
          * A power of two above the most entries that a table can have, 200 / 5: so the entries that
@@ -776,8 +776,9 @@ public final class HeadTables {
         }
 
         int evictable(int known) {
+            int top = Math.min(inserted, known);
             int n = 0;
-            for (int place = lowest; place < inserted && place < known && holders[place & MASK] == 0; place++) {
+            for (int place = lowest; place < top && holders[place & MASK] == 0; place++) {
                 n++;
             }
             return n;

@@ -245,6 +245,16 @@ public final class ComingTest {
         Due.due("all are unknown", x.inserts(0), Due.STATE);
         Due.due("hears all", x.hears(99), 80);
         Due.due("known", x.count(4), 40);
+        x.capacity(0);
+        x.capacity(200);
+        for (int i = 0; i < 40; i++) {
+            x.inserts(0);
+            x.feeds(99);
+        }
+        Due.due("grows by the most", x.grows(), 40);
+        Due.dueText("in one octet", Due.octets(x, 41), "40");
+        Due.due("hears it", x.hears(1), 1);
+        Due.due("known", x.count(4), 80);
     }
 
     private static void hears() {

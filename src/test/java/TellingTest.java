@@ -10,6 +10,7 @@ public final class TellingTest {
         tellsTooOften();
         tellsTwoEqual();
         tellsMakesAllNew();
+        tellsLikeANewObject();
         spells();
         coded();
         number();
@@ -106,6 +107,10 @@ public final class TellingTest {
 
     private static void tellsWords() {
         Due.due("no such word", Due.fault("tables 5;"), 0);
+        Due.due("another first letter", Due.fault("xable 5;"), 0);
+        Due.due("another last letter", Due.fault("blockex 5;"), 0);
+        Due.due("another letter in it", Due.fault("stxll a=;"), 0);
+        Due.due("a part of a word", Due.fault("fiel a=;"), 0);
         Due.due("a sign at first", Due.fault(" ;"), 1);
         Due.due("no token", Due.fault("field a=@;"), 8);
         Due.due("no token behind a piece", Due.fault("field a@=;"), 7);
@@ -181,6 +186,51 @@ public final class TellingTest {
         x.capacity(60);
         Due.due("a place from 0 again", x.inserts(0), 0);
         Due.due("nobody holds it", x.holds(0), 0);
+    }
+
+    /** The same calls, after some others and a telling, answer as those of a new object. */
+    private static void tellsLikeANewObject() {
+        String text = "table 13;field a=;field b=1;field cd=1;still e=;";
+        HeadTables x = Due.told("blocked 7;table 19;field aaaaaa=bbbbbb;field b=;field c=;still aaaaaa=11;still b=;");
+        String other = scenario(x);
+        Due.typed(x, "blocked 3;");
+        Due.due("tells", x.tells(), 1);
+        Due.typed(x, text);
+        Due.due("tells", x.tells(), 5);
+        Due.dueText("on a used object", scenario(x), scenario(Due.told(text)));
+        Due.typed(x, text);
+        Due.due("tells", x.tells(), 5);
+        Due.dueText("on it again", scenario(x), scenario(Due.told(text)));
+        Due.typed(x, "blocked 7;table 19;field aaaaaa=bbbbbb;field b=;field c=;still aaaaaa=11;still b=;");
+        Due.due("tells", x.tells(), 7);
+        Due.dueText("the first again", scenario(x), other);
+    }
+
+    private static String scenario(HeadTables x) {
+        StringBuilder all = new StringBuilder();
+        all.append(x.capacity(x.count(2))).append(' ').append(x.inserts(1)).append(' ').append(x.inserts(2)).append(' ');
+        all.append(x.feeds(5)).append(' ').append(x.feeds(3)).append(' ').append(x.grows()).append(' ');
+        all.append(x.hears(9)).append(' ').append(x.repeats(0)).append(' ').append(x.inserts(0)).append(' ');
+        for (int i = 0; i < 4; i++) {
+            all.append(x.puts(i % 3)).append(' ').append(x.puts(1)).append(' ');
+            all.append(x.cost(0)).append(' ').append(x.cost(1)).append(' ').append(x.cost(2)).append(' ');
+            all.append(x.sends(i % 3)).append(' ').append(x.gives(i, 1 + i * i)).append(' ');
+        }
+        all.append(x.quits(1)).append(' ').append(x.feeds(2)).append(' ').append(x.gives(2, 9)).append(' ');
+        all.append(x.feeds(1)).append(' ').append(x.hears(1)).append(' ').append(x.puts(0)).append(' ').append(x.type(9)).append(' ');
+        for (int what = 0; what < 12; what++) {
+            all.append(x.count(what)).append(' ').append(x.table(0, what)).append(' ').append(x.table(1, what)).append(' ');
+            all.append(x.holds(what)).append(' ').append(x.entry(0, what, 1)).append(' ').append(x.entry(1, what, 0)).append(' ');
+            all.append(x.spells(0, what / 3, 0, what % 3 - 1)).append(' ').append(x.spells(1, what / 3, 1, what % 3 - 1)).append(' ');
+            for (int k = 0; k < 5; k++) {
+                all.append(x.letter(k, what)).append(' ').append(x.got(k, what)).append(' ');
+            }
+        }
+        for (int row = 0; row < 42; row++) {
+            all.append(Due.octets(x, row)).append(';');
+        }
+        x.clear();
+        return all.toString();
     }
 
     private static void spells() {
@@ -260,6 +310,7 @@ public final class TellingTest {
         Due.due("upper bits of 1", read(1, 254), 0);
         Due.due("octets behind", read(5, 10, 0), Due.STATE);
         Due.due("1337", read(5, 31, 154, 10), 1337);
+        Due.due("a last group of 127", read(5, 31, 127), 158);
         Due.due("too early", read(5, 31), Due.STATE);
         Due.due("too early in the groups", read(5, 31, 154), Due.STATE);
         Due.due("octets behind groups", read(5, 31, 154, 10, 0), Due.STATE);

@@ -141,6 +141,18 @@ public final class WritingTest {
         Due.due("the decoder's entry", x.entry(1, 5, 1), 2);
         Due.due("static entries' names in the table", x.inserts(0), 6);
         Due.dueText("form a before form b", Due.octets(x, 40), "192 1 50");
+        HeadTables y = Due.told("table 200;field a=;field b=;field b=1;");
+        y.capacity(200);
+        y.inserts(1);
+        for (int i = 1; i < 38; i++) {
+            y.repeats(i > 1 ? 1 : y.inserts(0));
+        }
+        y.feeds(99);
+        Due.due("the count", y.table(0, 0), 39);
+        y.grows();
+        y.hears(1);
+        y.inserts(2);
+        Due.dueText("the name of the entry 38 before", Due.octets(y, 40), "166 1 49");
     }
 
     private static void insertsEvicts() {
@@ -243,6 +255,7 @@ public final class WritingTest {
         x.grows();
         x.hears(9);
         Due.due("40 are known", x.count(4), 40);
+        Due.due("none waits", x.count(9), 0);
         Due.due("repeats 9", x.repeats(9), 40);
         Due.due("repeats 9 again", x.repeats(9), 41);
         Due.due("repeats 12", x.repeats(12), 42);
@@ -317,6 +330,10 @@ public final class WritingTest {
         x.sends(2);
         Due.dueText("an empty section", Due.octets(x, 3), "0 0");
         Due.due("base", x.letter(3, 2), 2);
+        HeadTables y = Due.told("still a=;still a=;still a=;still a=;still a=;still a=;still b=;still c=;field c=1;field c=;");
+        Due.puts(y, 0, 1);
+        y.sends(0);
+        Due.dueText("the last static entry", Due.octets(y, 0), "0 0 87 1 49 199");
     }
 
     private static void sendsSafe() {
@@ -407,6 +424,16 @@ public final class WritingTest {
         z.sends(2);
         Due.dueText("the name of a place from the base on", Due.octets(z, 0), "3 129 16 17 1 1 51");
         Due.due("holds", z.holds(1), 1);
+        HeadTables u = Due.told("field a=1;field a=2;");
+        u.capacity(6);
+        Due.puts(u, 0, 1);
+        u.sends(2);
+        Due.dueText("the name of the place at the base", Due.octets(u, 0), "2 128 16 0 1 50");
+        HeadTables v = Due.told("field a=;field b=;field c=;field d=;field e=;field e=12;");
+        v.capacity(25);
+        Due.puts(v, 0, 1, 2, 3, 4, 5);
+        v.sends(2);
+        Due.dueText("the name of the fifth place", Due.octets(v, 0), "6 132 16 17 18 19 20 4 2 49 50");
     }
 
     private static void sendsGreedyHolds() {
@@ -559,6 +586,15 @@ public final class WritingTest {
         HeadTables x = Due.told("table 15;field a=;");
         x.capacity(15);
         int[] want = {2, 3, 4, 5, 6, 1, 2, 3};
+        dueRequired(x, want);
+        // span is 4, rounded down, though no more than 3 entries have room
+        HeadTables y = Due.told("table 19;field a=;");
+        y.capacity(19);
+        int[] wantOf8 = {2, 3, 4, 5, 6, 7, 8, 1, 2, 3};
+        dueRequired(y, wantOf8);
+    }
+
+    private static void dueRequired(HeadTables x, int... want) {
         for (int i = 0; i < want.length; i++) {
             Due.due("inserts", x.inserts(0), i);
             x.puts(0);
