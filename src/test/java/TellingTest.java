@@ -190,47 +190,39 @@ public final class TellingTest {
 
     /** The same calls, after some others and a telling, answer as those of a new object. */
     private static void tellsLikeANewObject() {
-        String text = "table 13;field a=;field b=1;field cd=1;still e=;";
-        HeadTables x = Due.told("blocked 7;table 19;field aaaaaa=bbbbbb;field b=;field c=;still aaaaaa=11;still b=;");
-        String other = scenario(x);
-        Due.typed(x, "blocked 3;");
-        Due.due("tells", x.tells(), 1);
-        Due.typed(x, text);
-        Due.due("tells", x.tells(), 5);
-        Due.dueText("on a used object", scenario(x), scenario(Due.told(text)));
-        Due.typed(x, text);
-        Due.due("tells", x.tells(), 5);
-        Due.dueText("on it again", scenario(x), scenario(Due.told(text)));
-        Due.typed(x, "blocked 7;table 19;field aaaaaa=bbbbbb;field b=;field c=;still aaaaaa=11;still b=;");
-        Due.due("tells", x.tells(), 7);
-        Due.dueText("the first again", scenario(x), other);
+        Due.Run one = Due.text("table 13;field a=;field b=1;field cd=1;still e=;");
+        Due.Run other = Due.text("blocked 7;table 19;field aaaaaa=bbbbbb;field b=;field c=;still aaaaaa=11;still b=;");
+        Due.Run calls = TellingTest::calls;
+        Due.alike("on a used object", other.then(calls).then(one).then(calls), one.then(calls));
+        Due.alike("on it again", one.then(calls).then(one).then(calls), one.then(calls));
+        Due.alike("the first again", other.then(calls).then(one).then(other).then(calls), other.then(calls));
     }
 
-    private static String scenario(HeadTables x) {
-        StringBuilder all = new StringBuilder();
-        all.append(x.capacity(x.count(2))).append(' ').append(x.inserts(1)).append(' ').append(x.inserts(2)).append(' ');
-        all.append(x.feeds(5)).append(' ').append(x.feeds(3)).append(' ').append(x.grows()).append(' ');
-        all.append(x.hears(9)).append(' ').append(x.repeats(0)).append(' ').append(x.inserts(0)).append(' ');
+    private static void calls(HeadTables x) {
+        x.capacity(x.count(2));
+        x.inserts(1);
+        x.inserts(2);
+        x.feeds(5);
+        x.feeds(3);
+        x.grows();
+        x.hears(9);
+        x.repeats(0);
+        x.inserts(0);
         for (int i = 0; i < 4; i++) {
-            all.append(x.puts(i % 3)).append(' ').append(x.puts(1)).append(' ');
-            all.append(x.cost(0)).append(' ').append(x.cost(1)).append(' ').append(x.cost(2)).append(' ');
-            all.append(x.sends(i % 3)).append(' ').append(x.gives(i, 1 + i * i)).append(' ');
+            x.puts(i % 3);
+            x.puts(1);
+            x.cost(2 - i % 3);
+            x.sends(i % 3);
+            x.gives(i, 1 + i * i);
         }
-        all.append(x.quits(1)).append(' ').append(x.feeds(2)).append(' ').append(x.gives(2, 9)).append(' ');
-        all.append(x.feeds(1)).append(' ').append(x.hears(1)).append(' ').append(x.puts(0)).append(' ').append(x.type(9)).append(' ');
-        for (int what = 0; what < 12; what++) {
-            all.append(x.count(what)).append(' ').append(x.table(0, what)).append(' ').append(x.table(1, what)).append(' ');
-            all.append(x.holds(what)).append(' ').append(x.entry(0, what, 1)).append(' ').append(x.entry(1, what, 0)).append(' ');
-            all.append(x.spells(0, what / 3, 0, what % 3 - 1)).append(' ').append(x.spells(1, what / 3, 1, what % 3 - 1)).append(' ');
-            for (int k = 0; k < 5; k++) {
-                all.append(x.letter(k, what)).append(' ').append(x.got(k, what)).append(' ');
-            }
-        }
-        for (int row = 0; row < 42; row++) {
-            all.append(Due.octets(x, row)).append(';');
-        }
+        x.quits(1);
+        x.feeds(2);
+        x.gives(2, 9);
+        x.feeds(1);
+        x.hears(1);
+        x.puts(0);
+        x.type(9);
         x.clear();
-        return all.toString();
     }
 
     private static void spells() {
