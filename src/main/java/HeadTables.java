@@ -858,15 +858,10 @@ public final class HeadTables {
             carriedOut = 0;
         }
 
+        /** Not a copy of what the instructions do: it is written to, and delivers nothing. */
         void copyOf(Stream other) {
-            for (int i = 0; i < SLOTS; i++) {
-                deeds[i] = other.deeds[i];
-                lefts[i] = other.lefts[i];
-            }
             waiting.empty();
             waiting.addAll(other.waiting);
-            written = other.written;
-            carriedOut = other.carriedOut;
         }
 
         boolean hasRoom(Row octets) {

@@ -20,12 +20,34 @@ final class Due {
         long on(HeadTables x);
     }
 
+    /** How many of the wrong answers are told. */
+    private static final int TOLD = 50;
+
     private static int wrong = 0;
     private static int asked = 0;
     private static String sentence = "";
     private static String sentenceTold = "";
 
+    /** A call that does not end is a wrong answer, too. */
+    private static final int SECONDS = 300;
+
+    static {
+        Thread watch = new Thread(Due::watch);
+        watch.setDaemon(true);
+        watch.start();
+    }
+
     private Due() {
+    }
+
+    private static void watch() {
+        try {
+            Thread.sleep(SECONDS * 1000L);
+        } catch (InterruptedException e) {
+            return;
+        }
+        System.out.println("\"" + sentence + "\": no end after " + SECONDS + " seconds");
+        Runtime.getRuntime().halt(1);
     }
 
     /** The words of the document that the answers from here on are about; they must stand there. */
@@ -39,6 +61,9 @@ final class Due {
 
     private static void tellWrong(String what) {
         wrong++;
+        if (wrong > TOLD) {
+            return;
+        }
         if (!sentence.equals(sentenceTold)) {
             System.out.println("\"" + sentence + "\"");
             sentenceTold = sentence;

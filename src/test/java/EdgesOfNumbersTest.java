@@ -322,7 +322,7 @@ public final class EdgesOfNumbersTest {
                 long coded = new HeadTables().coded(bits, (int) v);
                 HeadTables x = new HeadTables();
                 int octets = 1;
-                while (coded >> 8 * octets != 0) {
+                while (octets < 8 && coded >> 8 * octets != 0) {
                     octets++;
                 }
                 for (int i = octets - 1; i >= 0; i--) {

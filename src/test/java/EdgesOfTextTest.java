@@ -25,6 +25,7 @@ public final class EdgesOfTextTest {
         tableOnce();
         blockedOnce();
         tokens();
+        words();
         longPieces();
         blanks();
         blanksBetweenPieces();
@@ -41,6 +42,7 @@ public final class EdgesOfTextTest {
         clearChangesNothingElse();
         tellsItems();
         tellsSettingsAsAtFirst();
+        tellsAgainAndAgain();
         tellsEverythingElseAsAtFirst();
         tellsRefused();
         spellsCharacters();
@@ -401,6 +403,26 @@ public final class EdgesOfTextTest {
         }
     }
 
+    /** Each word with another letter at each place, one letter less, and one more. */
+    private static void words() {
+        Due.sentence("Fields and settings are given by a text of at most 200 octets.");
+        String[] words = {"table", "blocked", "still", "field"};
+        String[] rests = {" 5;", " 5;", " a=;", " a=;"};
+        for (int w = 0; w < words.length; w++) {
+            String word = words[w];
+            Due.due(word, Due.fault(word + rests[w]), -1);
+            Due.due(word + " and one more", Due.fault(word + "s" + rests[w]), 0);
+            Due.due(word + " and a digit", Due.fault(word + "1" + rests[w]), 0);
+            for (int i = 0; i < word.length(); i++) {
+                Due.due(word + " without " + i, Due.fault(word.substring(0, i) + word.substring(i + 1) + rests[w]), 0);
+                Due.due(word + " with another letter at " + i, Due.fault(word.substring(0, i) + "x" + word.substring(i + 1) + rests[w]), 0);
+                Due.due(word + " with a digit at " + i, Due.fault(word.substring(0, i) + "0" + word.substring(i + 1) + rests[w]), 0);
+            }
+        }
+        Due.due("the form of another word", Due.fault("table a=;"), 6);
+        Due.due("the form of another word", Due.fault("still 5;"), 6);
+    }
+
     private static void longPieces() {
         Due.sentence("A piece is a sequence of letters a to z and digits that is as long as possible.");
         Due.due("table5", Due.fault("table5;"), 0);
@@ -410,6 +432,8 @@ public final class EdgesOfTextTest {
         Due.due("a name of 7 is not one of 6 and one of 1", Due.fault("field abcdefg=1;"), 6);
         Due.due("a value of 12 is not two of 6", Due.fault("field a=123456123456;"), 8);
         Due.due("a number and a word", Due.fault("table 5table;"), 6);
+        Due.due("a value of 7 is no value and a word", Due.fault("field a=blocked 5;"), 8);
+        Due.due("a name of 7 is no word", Due.fault("field blocked 5;"), 6);
         Due.due("a shorter word", Due.fault("tabl 5;"), 0);
         Due.due("a longer word", Due.fault("blockedd 5;"), 0);
     }
@@ -601,16 +625,40 @@ public final class EdgesOfTextTest {
 
     // ---- promise 4
 
+    /** Something of everything: entries that are gone, known, held, and not delivered, and a section of every state. */
     private static void busy(HeadTables x) {
-        Due.text("table 70;blocked 3;still c=;field a=;field b=11;").on(x);
-        x.capacity(23);
+        Due.text("table 70;blocked 3;still c=;still abcdef=123456;field a=;field b=11;field abcde=12345;").on(x);
+        x.capacity(26);
         x.inserts(0);
-        Due.sends(x, 2, 1, 0);
-        x.feeds(9);
-        x.gives(0, 99);
-        Due.sends(x, 0, 0, 0);
-        x.quits(1);
+        x.inserts(1);
+        Due.settle(x);
+        x.inserts(2);
+        Due.due("the first entry goes", x.inserts(0), 3);
+        x.feeds(3);
         x.grows();
+        Due.sends(x, 2, 1, 0);
+        Due.sends(x, 0, 0, 0);
+        Due.sends(x, 1, 0);
+        Due.sends(x, 0, 1);
+        Due.sends(x, 1, 1);
+        x.gives(0, 99);
+        x.gives(1, 3);
+        x.quits(1);
+        x.gives(2, 2);
+        x.gives(3, 99);
+        x.gives(4, 99);
+        x.hears(1);
+        x.capacity(60);
+        x.feeds(1);
+        Due.due("an entry of four is gone", x.table(0, 4), 1);
+        Due.due("something is at risk", x.count(8) > 0 ? 1 : 0, 1);
+        Due.due("something is known", x.count(4), 2);
+        Due.due("something waits", x.count(9) > 3 && x.count(10) > 0 ? 1 : 0, 1);
+        Due.due("something is held", x.holds(1) != 0 && x.holds(3) != 0 ? 1 : 0, 1);
+        int[] states = {1, 3, 0, 2, 2};
+        for (int k = 0; k < states.length; k++) {
+            Due.due("section " + k, x.letter(k, 4), states[k]);
+        }
         Due.puts(x, 1, 0);
     }
 
@@ -640,9 +688,23 @@ public final class EdgesOfTextTest {
         }
     }
 
+    /** Texts one after the other, each of which lacks what the one before gave. */
+    private static void tellsAgainAndAgain() {
+        Due.sentence("Fields, static entries and settings become those of the text (settings that it does not give become as at first)");
+        String[] texts = {"table 123;blocked 7;field abcdef=123456;field b=1;still abcdef=654321;still b=1;", "", "field a=;still a=;", "table 5;", "blocked 5;",
+            "still ab=12;", "field ab=12;", "", "table 0;blocked 0;", ""};
+        Due.Run before = x -> { };
+        for (String text : texts) {
+            before = before.then(Due.text(text));
+            Due.alike("texts up to " + text, before, Due.text(text));
+        }
+        Due.alike("a text that is refused and one that is not", Due.text(texts[0]).then(x -> Due.typed(x, texts[2] + "?")).then(HeadTables::tells)
+            .then(HeadTables::clear).then(Due.text(texts[4])), Due.text(texts[4]));
+    }
+
     private static void tellsEverythingElseAsAtFirst() {
         Due.sentence("everything else becomes as at first, and the text becomes empty.");
-        for (String text : new String[] {"", "field a=;", "table 70;blocked 3;still c=;field a=;field b=11;"}) {
+        for (String text : new String[] {"", "field a=;", "blocked 9;field a=;field b=11;", "table 70;blocked 3;still c=;field a=;field b=11;field abcdef=;"}) {
             Due.alike("tells " + text, x -> {
                 busy(x);
                 Due.typed(x, text);

@@ -77,9 +77,45 @@ final class Whole {
         });
         then("inserts", 7, (x, i) -> x.inserts(i) + 1000 * x.count(9));
         then("capacity", 1, (x, i) -> x.capacity(x.count(2)) + 1000L * x.count(9));
+        then("everything", 90, this::everything);
         then("type", 1, (x, i) -> x.type(';') + 1000L * x.tells());
         then("tells", 1, (x, i) -> x.tells() + 1000L * x.count(12) + 1000000L * x.count(0) + 10000000L * x.count(2));
         then("clear", 1, (x, i) -> x.clear());
+    }
+
+    /** Uses all that there is, as one would use a new object, and looks at it. */
+    private long everything(HeadTables x, int i) {
+        switch (i) {
+            case 0: return x.capacity(x.count(2));
+            case 1, 2, 3: return x.inserts(i - 1);
+            case 4, 5, 6: return x.puts(6 - i);
+            case 7: return x.sends(1);
+            case 8: return x.puts(1);
+            case 9: return x.sends(2);
+            case 10: return x.feeds(5);
+            case 11: return x.grows();
+            case 12: return x.hears(1);
+            case 13: return x.repeats(x.table(0, 4));
+            case 14: return x.loose();
+            default: break;
+        }
+        int last = x.count(6) - 1;
+        if (i < 30) {
+            return x.letter(last - i / 7 % 2, i % 7);
+        }
+        if (i < 50) {
+            return x.holds(x.table(0, 0) - i % 10);
+        }
+        if (i < 60) {
+            return x.gives(last - i % 2, i % 5 + 1);
+        }
+        if (i < 70) {
+            return x.feeds(i - 59) + 1000L * x.hears(1) + 1000000L * x.waits(0);
+        }
+        if (i < 84) {
+            return x.letter(last - i / 7 % 2, i % 7);
+        }
+        return x.got(last - i % 2, i % 3);
     }
 
     /** Makes calls that change the object, one after the other. */
