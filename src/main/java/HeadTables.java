@@ -411,7 +411,7 @@ public final class HeadTables {
         }
 
         void addAll(Row other) {
-            for (int i = 0; i < other.size && i < other.row.length && size < row.length; i++) {
+            for (int i = 0; i < other.size && i < other.row.length && size >= 0 && size < row.length; i++) {
                 row[size] = other.row[i];
                 size++;
             }

@@ -123,6 +123,7 @@ public final class EdgesOfNumbersTest {
         return whole * 256 + rest;
     }
 
+    /** A value has at most 6 characters: no run reaches the length 127, from which on there would be two octets. */
     private static void values() {
         Due.sentence("To write a value: its length as an integer with the head 0 and a prefix of 7 bits, and then its characters.");
         HeadTables x = Due.told("field a=;field b=0;field c=z9;field d=123456;");

@@ -329,6 +329,7 @@ public final class EdgesOfSectionsTest {
         Due.due("goes", x.inserts(2), 1);
     }
 
+    /** There are at most 8 static entries: no run reaches the number 63, from which on there would be two octets. */
     private static void formA() {
         Due.sentence("a. If a static entry is like f: the number of the lowest one with the head 192 and a prefix of 6 bits.");
         String stills = "still a=;still a=1;still b=1;still a=1;still b=;still c=;still d=;still e=5;";
@@ -443,6 +444,7 @@ public final class EdgesOfSectionsTest {
         Due.due("octets that wait", x.count(9), 200);
     }
 
+    /** There are at most 8 static entries: no run reaches the number 15, from which on there would be two octets. */
     private static void formC() {
         Due.sentence("c. If a static entry has the name of f: the number of the lowest one with the head 80 and a prefix of 4 bits; then the value of f.");
         String stills = "still a=;still b=1;still b=2;still c=;still d=;still e=;still f=;still g=;";

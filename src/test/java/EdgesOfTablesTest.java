@@ -334,6 +334,7 @@ public final class EdgesOfTablesTest {
         }
     }
 
+    /** There are at most 8 static entries: no run reaches the number 63, from which on there would be two octets. */
     private static void formA() {
         Due.sentence("a. if a static entry has the name of f: the number of the lowest such entry, with the head 192 and a prefix of 6 bits; then "
             + "the value of f.");
@@ -424,6 +425,7 @@ public final class EdgesOfTablesTest {
         Due.due("the decoder's entry", x.entry(1, 40, 1), 2);
     }
 
+    /** A name has at most 6 letters: no run reaches the length 31, from which on there would be two octets. */
     private static void formC() {
         Due.sentence("c. the length of the name with the head 64 and a prefix of 5 bits, the letters of the name; then the value of f.");
         HeadTables x = Due.told("table 100;field a=;field abcdef=;field bcdefg=123456;field az=0;");
