@@ -24,10 +24,12 @@ public final class FaceTest {
     };
 
     public static void main(String[] args) throws Exception {
+        String code = Files.readString(Path.of(args.length > 0 ? args[0] : "src/main/java/HeadTables.java"));
         constants();
         face();
+        asTheDocumentWritesIt(code);
         insideClasses();
-        text(args.length > 0 ? args[0] : "src/main/java/HeadTables.java");
+        text(code);
         Due.finish();
     }
 
@@ -69,6 +71,15 @@ public final class FaceTest {
         return method.getReturnType() + " " + method.getName() + "(" + String.join(",", types) + ")";
     }
 
+    /** Also the names of the parameters, which a call cannot tell. */
+    private static void asTheDocumentWritesIt(String code) {
+        List<String> face = Document.face();
+        Due.due("lines of the face", face.isEmpty() ? FACE.length + 3 : face.size(), FACE.length + 3);
+        for (String line : face) {
+            Due.due(line, code.contains("\n" + line.replace(");", ") {") + "\n") ? 1 : 0, 1);
+        }
+    }
+
     private static void insideClasses() {
         Set<String> publicNames = new TreeSet<>();
         for (String method : FACE) {
@@ -103,8 +114,7 @@ public final class FaceTest {
         Due.due(field + " is final", right ? 1 : 0, 1);
     }
 
-    private static void text(String file) throws Exception {
-        String code = Files.readString(Path.of(file));
+    private static void text(String code) {
         for (int i = 0; i < code.length(); i++) {
             if (code.charAt(i) > 126) {
                 Due.due("sign " + i, code.charAt(i), 126);
